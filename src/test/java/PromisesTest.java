@@ -163,6 +163,7 @@ public final class PromisesTest {
         is(5, "toil(0, 3), which is less than its weariness", x.toil(0, 3), 0);
         is(5, "toil(0, 4)", x.toil(0, 4), 17);
         is(5, "toil(1, 40)", x.toil(1, 40), 1300);
+        is(5, "told(1, WEARY), as a MASTER does 40 whole", x.told(1, WEARY), 40);
         is(5, "toil(2, 1), which rests by nothing", x.toil(2, 1), 30);
         is(5, "told(2, WEARY)", x.told(2, WEARY), 1);
         is(5, "toil(0, -1)", x.toil(0, -1), REFUSED);
@@ -176,10 +177,10 @@ public final class PromisesTest {
     private static void toilOfTheWeary() {
         WatchBill x = crewOf(20, TOPMAN, MATE, HAND);
         makeWeary(x, 0, 500);
-        is(5, "toil of a TOPMAN at 500", x.toil(0, 20), 160);
-        is(5, "toil of a TOPMAN at 520", x.toil(0, 20), 0);
+        is(5, "toil of a TOPMAN at 500", x.toil(0, 1), 3);
+        is(5, "toil of a TOPMAN at 501", x.toil(0, 20), 0);
         notesAre(5, x, 20);
-        is(5, "its weariness", x.told(0, WEARY), 520);
+        is(5, "its weariness", x.told(0, WEARY), 501);
         makeWeary(x, 1, 495);
         is(5, "toil of a MATE whose second half is too weary", x.toil(1, 21), 30);
         notesAre(5, x, 40, 20, 80, 20);
