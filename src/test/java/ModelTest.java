@@ -1,16 +1,16 @@
 import java.util.ArrayList;
+import java.util.Arrays;
 import java.util.List;
 import java.util.Random;
 
 /**
  * Many runs of calls, each answered by WatchBill and by a second telling of the document that is built in
- * another way (a table of ways and of elders, no classes of ranks); all answers and states must agree.
- * The state is read after each call, so an object has more than the 512 calls that are promised: this class's
- * answers do not change by that, and a wrong state is found at the call that made it.
+ * another way (a table of ways and of elders, no classes of ranks); all answers, and the states in the end, must agree.
  */
 public final class ModelTest {
-    private static final int RUNS = 3000;
-    private static final int CALLS = 500;
+    private static final int RUNS = 20000;
+    /** Those that read the state in the end are some 200 more, within the 512 that an object has. */
+    private static final int MOST_CALLS = 300;
     private static final long REFUSED = -1000000L;
     private static final String[] NAMES = {"enlist", "promote", "demote", "toil", "pay", "climb", "heed", "race", "due",
         "feed", "watch", "line", "sail", "rest", "told", "note", "notes"};
@@ -30,18 +30,21 @@ public final class ModelTest {
         WatchBill bill = new WatchBill();
         Model model = new Model();
         int wildness = run % 3;
-        for (int i = 0; i < CALLS; i++) {
+        int calls = 10 + random.nextInt(MOST_CALLS - 10);
+        for (int i = 0; i < calls; i++) {
             int call = i < 6 ? 0 : random.nextInt(NAMES.length);
             int[] a = argumentsOf(call, random, wildness);
             long got = callBill(bill, call, a);
             long want = model.call(call, a);
-            String told = got == want ? differenceOf(bill, model) : "answered " + got + ", due is " + want;
-            if (told != null) {
-                System.out.println("run " + run + ", call " + i + ": " + NAMES[call] + java.util.Arrays.toString(a) + " " + told);
+            if (got != want) {
+                System.out.println("run " + run + ", call " + i + ": " + NAMES[call] + Arrays.toString(a)
+                    + " answered " + got + ", due is " + want);
                 return false;
             }
         }
-        return true;
+        String difference = differenceOf(bill, model);
+        if (difference != null) System.out.println("run " + run + " of " + calls + " calls " + difference);
+        return difference == null;
     }
 
     private static String differenceOf(WatchBill bill, Model model) {

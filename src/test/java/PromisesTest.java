@@ -1,12 +1,5 @@
 /** Each promise of the document by itself: ordinary inputs, its edges, and what it refuses. */
-public final class PromisesTest {
-    private static final long REFUSED = -1000000L;
-    private static final int HAND = 0, SAILOR = 1, TOPMAN = 2, BOSUN = 3, MATE = 4, MASTER = 5, COOK = 6, SURGEON = 7;
-    private static final int TOIL = 0, PAY = 1, CLIMB = 2, HEED = 3;
-    private static final int RANK = 0, SKILL = 1, WEARY = 2, PURSE = 3, CLIMBER = 4, PAYEE = 5, CARER = 6;
-    private static final int LEAST = Integer.MIN_VALUE, MOST = Integer.MAX_VALUE;
-    private static int wrong = 0;
-
+public final class PromisesTest extends Checks {
     public static void main(String[] args) {
         newObject();
         enlist();
@@ -27,41 +20,7 @@ public final class PromisesTest {
         told();
         note();
         notesStayWhereTheyShould();
-        refusedChangesNothing();
-        System.out.println(wrong == 0 ? "all answers are as due" : wrong + " answers are not as due");
-        if (wrong != 0) System.exit(1);
-    }
-
-    private static void is(int promise, String call, long got, long want) {
-        if (got != want) {
-            wrong++;
-            System.out.println("promise " + promise + ": " + call + " answered " + got + ", due is " + want);
-        }
-    }
-
-    private static void notesAre(int promise, WatchBill x, int... want) {
-        is(promise, "notes()", x.notes(), want.length);
-        for (int i = 0; i < want.length; i++) is(promise, "note(" + i + ")", x.note(i), want[i]);
-        is(promise, "note(" + want.length + ")", x.note(want.length), REFUSED);
-    }
-
-    /** A bill of members with these ranks, all of one skill. */
-    private static WatchBill crewOf(int skill, int... ranks) {
-        WatchBill x = new WatchBill();
-        for (int rank : ranks) x.enlist(rank, skill);
-        return x;
-    }
-
-    /** Makes member k, of rank 0 .. 5 and not weary yet, weary as a HAND, whose TOIL tires it by just n. */
-    private static void makeWeary(WatchBill x, int k, int weary) {
-        int steps = 0;
-        while (x.told(k, RANK) != HAND) {
-            x.demote(k);
-            steps++;
-        }
-        for (int left = weary; left > 0; left -= 100) x.toil(k, Math.min(left, 100));
-        for (int i = 0; i < steps; i++) x.promote(k);
-        is(5, "told(" + k + ", WEARY) once it has toiled", x.told(k, WEARY), weary);
+        end();
     }
 
     private static void newObject() {
@@ -566,43 +525,5 @@ public final class PromisesTest {
         x.line(0, -1, 0, 0, 0);
         x.sail(1);
         notesAre(18, x);
-    }
-
-    private static void refusedChangesNothing() {
-        WatchBill x = crewOf(10, HAND, MASTER, COOK);
-        makeWeary(x, 0, 20);
-        x.pay(1, 10);
-        x.line(0, HEED, 2, HAND, HAND);
-        String before = stateOf(x);
-        x.enlist(8, 1);
-        x.promote(1);
-        x.demote(0);
-        x.toil(0, 101);
-        x.pay(0, -1);
-        x.climb(0, -1);
-        x.race(0, 1, 1);
-        x.race(1, 1, -1);
-        x.due(0, 1, 0);
-        x.feed(0, 10);
-        x.feed(2, 101);
-        x.watch(PAY, 1001);
-        x.line(0, HEED, 3, HAND, 8);
-        x.sail(-1);
-        x.rest(1001);
-        if (!before.equals(stateOf(x))) {
-            wrong++;
-            System.out.println("what is refused changed " + before + " to " + stateOf(x));
-        }
-        is(13, "sail(1) of the line that stayed", x.sail(1), 62);
-    }
-
-    private static String stateOf(WatchBill x) {
-        StringBuilder text = new StringBuilder();
-        for (int k = 0; k < 12; k++) {
-            for (int what = RANK; what <= CARER; what++) text.append(x.told(k, what)).append(' ');
-        }
-        text.append("notes ").append(x.notes());
-        for (int i = 0; i < 64; i++) text.append(' ').append(x.note(i));
-        return text.toString();
     }
 }
