@@ -19,8 +19,11 @@ public final class FaceTest {
     public static void main(String[] args) {
         Class<?> face = WatchBill.class;
         is("the class is public and final", Modifier.isPublic(face.getModifiers()) && Modifier.isFinal(face.getModifiers()));
+        is("the class extends and implements nothing and has no package",
+            face.getSuperclass() == Object.class && face.getInterfaces().length == 0 && face.getPackageName().isEmpty());
         methods(face);
         fields(face);
+        sizes(face);
         Constructor<?>[] constructors = face.getDeclaredConstructors();
         is("one public constructor without parameters", constructors.length == 1
             && Modifier.isPublic(constructors[0].getModifiers()) && constructors[0].getParameterCount() == 0);
@@ -59,10 +62,24 @@ public final class FaceTest {
             is(field.getName() + " is as visible as it should be",
                 isRefused ? Modifier.isPublic(modifiers) : Modifier.isPrivate(modifiers));
             is(field.getName() + " is final, if static", !Modifier.isStatic(modifiers) || Modifier.isFinal(modifiers));
+            is(field.getName() + " is a plain constant, if static", !Modifier.isStatic(modifiers) || field.getType() == int.class);
         }
     }
 
+    private static void sizes(Class<?> any) {
+        for (Method method : any.getDeclaredMethods()) {
+            is(any.getName() + "'s " + method.getName() + " has at most seven parameters", method.getParameterCount() <= 7);
+        }
+        int fields = 0;
+        for (Field field : any.getDeclaredFields()) {
+            if (!Modifier.isStatic(field.getModifiers())) fields++;
+        }
+        is(any.getName() + " has at most twenty fields", fields <= 20);
+    }
+
     private static void classInside(Class<?> nested) {
+        sizes(nested);
+        is(nested.getName() + " has no classes inside", nested.getDeclaredClasses().length == 0);
         int modifiers = nested.getModifiers();
         is(nested.getName() + " is static", Modifier.isStatic(modifiers));
         is(nested.getName() + " is not public or protected", !Modifier.isPublic(modifiers) && !Modifier.isProtected(modifiers));

@@ -2,6 +2,7 @@
 public final class PromisesTest extends Checks {
     public static void main(String[] args) {
         newObject();
+        newObjectBesideAnother();
         enlist();
         promote();
         demote();
@@ -35,6 +36,28 @@ public final class PromisesTest extends Checks {
         x.enlist(HAND, 10);
         is(1, "sail(20) of an empty plan", x.sail(20), 0);
         is(1, "notes()", x.notes(), 0);
+    }
+
+    private static void newObjectBesideAnother() {
+        WatchBill x = crewOf(25, HAND, MATE);
+        for (int i = 0; i < 8; i++) x.line(i, PAY, 10, HAND, SURGEON);
+        x.sail(1);
+        x.toil(1, 10);
+        String before = stateOf(x);
+        WatchBill y = new WatchBill();
+        is(1, "rest(0) beside a bill of two members", y.rest(0), 0);
+        is(1, "notes() beside a bill with notes", y.notes(), 0);
+        is(1, "enlist(7, 50)", y.enlist(SURGEON, 50), 0);
+        is(1, "sail(20) beside a bill with a full plan", y.sail(20), 0);
+        y.line(0, CLIMB, 11, SURGEON, SURGEON);
+        y.line(1, CLIMB, 11, HAND, HAND);
+        is(1, "sail(1)", y.sail(1), 10);
+        y.promote(0);
+        y.demote(0);
+        notesAre(1, y, 72, 82);
+        if (!before.equals(stateOf(x))) fail("promise 1", "the calls on a new object changed another");
+        is(1, "sail(1) of the first bill", x.sail(1), 8 * (70 + 100));
+        notesAre(1, y, 72, 82);
     }
 
     private static void enlist() {
