@@ -200,7 +200,8 @@ public final class PromisesTest extends Checks {
         is(6, "pay of a SURGEON, a HAND at 500", x.pay(7, 10), 70);
         x.toil(0, 1);
         is(6, "pay of a SURGEON, a HAND at 501", x.pay(7, 10), 77);
-        while (x.told(7, WEARY) <= 500) x.toil(7, 100);
+        for (int i = 0; i < 11; i++) x.toil(7, 100);
+        is(6, "told(7, WEARY)", x.told(7, WEARY), 550);
         is(6, "pay of a SURGEON who is weary too", x.pay(7, 10), 84);
         is(6, "pay(0, 0)", x.pay(0, 0), 0);
         is(6, "pay(0, 1000)", x.pay(0, 1000), 7000);
